@@ -158,19 +158,16 @@ public final class SpanLoom {
         }
         parting.part(layings[a], ones);
         parting.part(layings[b], others);
-        int sum = 0;
-        for (int one = 0; one < ones.count; one++) {
-            for (int other = 0; other < others.count; other++) {
-                if (isMapped(layings[a], one, other)) {
-                    sum++;
-                }
-            }
-        }
-        return sum;
+        return mapsOfSpans(layings[a]);
     }
 
     public int bends(int a, int b) {
-        return haveSameWays(a, b) ? maps(a, b) - form(a, b) : NONE;
+        if (!haveSameWays(a, b)) {
+            return NONE;
+        }
+        parting.part(layings[a], ones);
+        parting.part(layings[b], others);
+        return mapsOfSpans(layings[a]) - form(a, b);
     }
 
     public int form(int a, int b) {
@@ -371,6 +368,18 @@ public final class SpanLoom {
             }
             index++;
         }
+    }
+
+    private int mapsOfSpans(Laying laying) {
+        int sum = 0;
+        for (int one = 0; one < ones.count; one++) {
+            for (int other = 0; other < others.count; other++) {
+                if (isMapped(laying, one, other)) {
+                    sum++;
+                }
+            }
+        }
+        return sum;
     }
 
     /**
@@ -698,7 +707,9 @@ public final class SpanLoom {
         private Rows lead(Laying laying, int arrow, Rows space) {
             Rows led = next;
             if (laying.isLeft(arrow)) {
-                leadBack(laying, arrow, space, led);
+                findConditions(laying, arrow, space);
+                conditions.bringToLeast();
+                solveConditions(led);
             } else {
                 leadAlong(laying, arrow, space, led);
             }
@@ -708,7 +719,7 @@ public final class SpanLoom {
         }
 
         private void leadAlong(Laying laying, int arrow, Rows space, Rows led) {
-            led.start(space.count, laying.rowsOf(arrow));
+            led.start(space.count, laying.sizes[arrow + 1]);
             for (int row = 0; row < led.count; row++) {
                 for (int place = 0; place < led.width; place++) {
                     int sum = 0;
@@ -720,24 +731,9 @@ public final class SpanLoom {
             }
         }
 
-        /** All that the arrow leads into the space. */
-        private void leadBack(Laying laying, int arrow, Rows space, Rows led) {
-            findConditions(laying, arrow, space);
-            conditions.bringToLeast();
-            led.start(conditions.freeCount(), conditions.width);
-            int row = 0;
-            for (int free = 0; free < conditions.width; free++) {
-                if (conditions.isFree(free)) {
-                    for (int place = 0; place < led.width; place++) {
-                        led.put(row, place, conditions.rest(place, free));
-                    }
-                    row++;
-                }
-            }
-        }
-
+        /** What a column has to fulfil so that an arrow to the left leads it into the space. */
         private void findConditions(Laying laying, int arrow, Rows space) {
-            conditions.start(space.freeCount(), laying.columnsOf(arrow));
+            conditions.start(space.freeCount(), laying.sizes[arrow + 1]);
             int row = 0;
             for (int free = 0; free < space.width; free++) {
                 if (!space.isFree(free)) {
@@ -751,6 +747,19 @@ public final class SpanLoom {
                     conditions.put(row, column, sum % prime);
                 }
                 row++;
+            }
+        }
+
+        private void solveConditions(Rows led) {
+            led.start(conditions.freeCount(), conditions.width);
+            int row = 0;
+            for (int free = 0; free < conditions.width; free++) {
+                if (conditions.isFree(free)) {
+                    for (int place = 0; place < led.width; place++) {
+                        led.put(row, place, conditions.rest(place, free));
+                    }
+                    row++;
+                }
             }
         }
     }
