@@ -98,53 +98,36 @@ public final class MakingTest {
         check.due("a size of 4", loom.beside(0, 3, 3), true);
     }
 
-    private static void fill(SpanLoom loom, int l, int arrow, int[][] table) {
-        for (int row = 0; row < table.length; row++) {
-            for (int column = 0; column < table[row].length; column++) {
-                loom.set(l, arrow, row, column, table[row][column]);
-            }
-        }
-    }
-
-    private static void same(Check check, SpanLoom loom, int l, int arrow, int[][] want) {
-        for (int row = 0; row < want.length; row++) {
-            for (int column = 0; column < want[row].length; column++) {
-                check.due("arrow " + arrow + " at " + row + ", " + column,
-                        loom.get(l, arrow, row, column), want[row][column]);
-            }
-        }
-    }
-
     private static void mixWhereArrowsPointIn(Check check) {
         SpanLoom loom = new SpanLoom(5, 3);
         loom.lay(0, 2, 0_122);
-        fill(loom, 0, 0, new int[][] {{1, 2}, {3, 4}});
-        fill(loom, 0, 1, new int[][] {{2}, {3}});
+        Tables.fill(loom, 0, 0, new int[][] {{1, 2}, {3, 4}});
+        Tables.fill(loom, 0, 1, new int[][] {{2}, {3}});
         check.due("mix", loom.mix(0, 1, 0, 1, 3), true);
-        same(check, loom, 0, 0, new int[][] {{0, 4}, {3, 4}});
-        same(check, loom, 0, 1, new int[][] {{1}, {3}});
+        Tables.same(check, loom, 0, 0, new int[][] {{0, 4}, {3, 4}});
+        Tables.same(check, loom, 0, 1, new int[][] {{1}, {3}});
     }
 
     private static void mixWhereArrowsComeFrom(Check check) {
         SpanLoom loom = new SpanLoom(5, 3);
         loom.lay(0, 0, 0_222);
-        fill(loom, 0, 0, new int[][] {{1, 2}, {3, 4}});
-        fill(loom, 0, 1, new int[][] {{1, 2}, {3, 4}});
+        Tables.fill(loom, 0, 0, new int[][] {{1, 2}, {3, 4}});
+        Tables.fill(loom, 0, 1, new int[][] {{1, 2}, {3, 4}});
         check.due("mix", loom.mix(0, 1, 1, 0, 2), true);
-        same(check, loom, 0, 0, new int[][] {{1, 2}, {0, 3}});
-        same(check, loom, 0, 1, new int[][] {{2, 2}, {0, 4}});
+        Tables.same(check, loom, 0, 0, new int[][] {{1, 2}, {0, 3}});
+        Tables.same(check, loom, 0, 1, new int[][] {{2, 2}, {0, 4}});
         check.due("mix at the first post", loom.mix(0, 0, 0, 1, 4), true);
-        same(check, loom, 0, 0, new int[][] {{1, 3}, {0, 3}});
+        Tables.same(check, loom, 0, 0, new int[][] {{1, 3}, {0, 3}});
         check.due("mix by 0", loom.mix(0, 2, 0, 1, 0), true);
-        same(check, loom, 0, 1, new int[][] {{2, 2}, {0, 4}});
+        Tables.same(check, loom, 0, 1, new int[][] {{2, 2}, {0, 4}});
         check.due("mix at the last post", loom.mix(0, 2, 0, 1, 1), true);
-        same(check, loom, 0, 1, new int[][] {{2, 1}, {0, 4}});
+        Tables.same(check, loom, 0, 1, new int[][] {{2, 1}, {0, 4}});
     }
 
     private static void mixRefused(Check check) {
         SpanLoom loom = new SpanLoom(5, 2);
         loom.lay(0, 0, 0_22);
-        fill(loom, 0, 0, new int[][] {{1, 2}, {3, 4}});
+        Tables.fill(loom, 0, 0, new int[][] {{1, 2}, {3, 4}});
         check.due("laying 8", loom.mix(8, 0, 0, 1, 1), false);
         check.due("laying -1", loom.mix(-1, 0, 0, 1, 1), false);
         check.due("post 2", loom.mix(0, 2, 0, 1, 1), false);
@@ -156,6 +139,6 @@ public final class MakingTest {
         check.due("i is j", loom.mix(0, 1, 1, 1, 1), false);
         check.due("c is P", loom.mix(0, 1, 0, 1, 5), false);
         check.due("c is -1", loom.mix(0, 1, 0, 1, -1), false);
-        same(check, loom, 0, 0, new int[][] {{1, 2}, {3, 4}});
+        Tables.same(check, loom, 0, 0, new int[][] {{1, 2}, {3, 4}});
     }
 }

@@ -11,39 +11,20 @@ public final class TurnTest {
         check.end();
     }
 
-    private static void fill(SpanLoom loom, int l, int arrow, int[][] table) {
-        for (int row = 0; row < table.length; row++) {
-            for (int column = 0; column < table[row].length; column++) {
-                loom.set(l, arrow, row, column, table[row][column]);
-            }
-        }
-    }
-
-    private static void same(Check check, SpanLoom loom, int l, int arrow, int[][] want) {
-        for (int row = 0; row < want.length; row++) {
-            for (int column = 0; column < want[row].length; column++) {
-                check.due("arrow " + arrow + " at " + row + ", " + column,
-                        loom.get(l, arrow, row, column), want[row][column]);
-            }
-        }
-        check.due("no further row", loom.get(l, arrow, want.length, 0), -1);
-        check.due("no further column", loom.get(l, arrow, 0, want[0].length), -1);
-    }
-
     /** T is 1 2 | 3 over 2 4 | 0: least rows 1 2 0 and 0 0 1, so place 1 alone is FREE, with w = 3 1 0. */
     private static void turnIn(Check check) {
         SpanLoom loom = new SpanLoom(5, 4);
         loom.lay(0, 2, 0_1122);
-        fill(loom, 0, 0, new int[][] {{1, 2}, {2, 4}});
-        fill(loom, 0, 1, new int[][] {{3}, {0}});
+        Tables.fill(loom, 0, 0, new int[][] {{1, 2}, {2, 4}});
+        Tables.fill(loom, 0, 1, new int[][] {{3}, {0}});
         loom.set(0, 2, 0, 0, 4);
         check.due("turn in", loom.turn(0, 1, 3), 1);
         check.due("ways", loom.ways(3), 1);
         check.due("size", loom.size(3, 1), 1);
         check.due("size beside", loom.size(3, 0), 2);
-        same(check, loom, 3, 0, new int[][] {{3}, {1}});
-        same(check, loom, 3, 1, new int[][] {{0}});
-        same(check, loom, 3, 2, new int[][] {{4}});
+        Tables.same(check, loom, 3, 0, new int[][] {{3}, {1}});
+        Tables.same(check, loom, 3, 1, new int[][] {{0}});
+        Tables.same(check, loom, 3, 2, new int[][] {{4}});
         check.due("the old one stays", loom.ways(0), 2);
         check.due("the old one's number stays", loom.get(0, 0, 1, 1), 4);
     }
@@ -52,21 +33,21 @@ public final class TurnTest {
     private static void turnOut(Check check) {
         SpanLoom loom = new SpanLoom(7, 3);
         loom.lay(0, 1, 0_112);
-        fill(loom, 0, 0, new int[][] {{1}, {2}});
-        fill(loom, 0, 1, new int[][] {{3}});
+        Tables.fill(loom, 0, 0, new int[][] {{1}, {2}});
+        Tables.fill(loom, 0, 1, new int[][] {{3}});
         check.due("turn out", loom.turn(0, 1, 1), 2);
         check.due("ways", loom.ways(1), 2);
-        same(check, loom, 1, 0, new int[][] {{5, 1}, {4, 0}});
-        same(check, loom, 1, 1, new int[][] {{0}, {1}});
+        Tables.same(check, loom, 1, 0, new int[][] {{5, 1}, {4, 0}});
+        Tables.same(check, loom, 1, 1, new int[][] {{0}, {1}});
     }
 
     private static void turnAtAnEnd(Check check) {
         SpanLoom loom = new SpanLoom(3, 2);
         loom.lay(0, 0, 0_12);
-        fill(loom, 0, 0, new int[][] {{1, 1}});
+        Tables.fill(loom, 0, 0, new int[][] {{1, 1}});
         check.due("in at the last post", loom.turn(0, 1, 1), 1);
         check.due("ways", loom.ways(1), 1);
-        same(check, loom, 1, 0, new int[][] {{2}, {1}});
+        Tables.same(check, loom, 1, 0, new int[][] {{2}, {1}});
         check.due("out at the first post", loom.turn(0, 0, 2), 0);
         check.due("size", loom.size(2, 0), 0);
         check.due("size beside", loom.size(2, 1), 1);
@@ -81,8 +62,8 @@ public final class TurnTest {
         loom.span(0, 2, 0, 2);
         check.due("into itself", loom.turn(0, 1, 0), 1);
         check.due("ways", loom.ways(0), 1);
-        same(check, loom, 0, 0, new int[][] {{6}});
-        same(check, loom, 0, 1, new int[][] {{1}});
+        Tables.same(check, loom, 0, 0, new int[][] {{6}});
+        Tables.same(check, loom, 0, 1, new int[][] {{1}});
     }
 
     private static void turnRefused(Check check) {
@@ -109,8 +90,8 @@ public final class TurnTest {
     private static void turnTwice(Check check) {
         SpanLoom loom = new SpanLoom(13, 3);
         loom.lay(0, 2, 0_222);
-        fill(loom, 0, 0, new int[][] {{1, 2}, {3, 6}});
-        fill(loom, 0, 1, new int[][] {{1, 7}, {0, 5}});
+        Tables.fill(loom, 0, 0, new int[][] {{1, 2}, {3, 6}});
+        Tables.fill(loom, 0, 1, new int[][] {{1, 7}, {0, 5}});
         check.due("no span of it alone", loom.spans(0, 1, 1), 0);
         check.due("turn", loom.turn(0, 1, 1), 2);
         check.due("turn back", loom.turn(1, 1, 1), 2);
