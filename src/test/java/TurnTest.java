@@ -6,7 +6,6 @@ public final class TurnTest {
         turnOut(check);
         turnAtAnEnd(check);
         turnIntoItself(check);
-        turnRefused(check);
         turnTwice(check);
         check.end();
     }
@@ -64,26 +63,6 @@ public final class TurnTest {
         check.due("ways", loom.ways(0), 1);
         Tables.same(check, loom, 0, 0, new int[][] {{6}});
         Tables.same(check, loom, 0, 1, new int[][] {{1}});
-    }
-
-    private static void turnRefused(Check check) {
-        SpanLoom loom = new SpanLoom(7, 3);
-        loom.span(1, 0, 0, 2);
-        loom.lay(0, 2, 0_403);
-        check.due("a size of 7", loom.turn(0, 1, 1), -1);
-        check.due("it stays", loom.size(1, 1), 1);
-        check.due("its ways stay", loom.ways(1), 0);
-        check.due("neither in nor out", loom.turn(1, 1, 2), -1);
-        check.due("post 3", loom.turn(1, 3, 2), -1);
-        check.due("post -1", loom.turn(1, -1, 2), -1);
-        check.due("laying 8", loom.turn(8, 0, 2), -1);
-        check.due("laying -1", loom.turn(-1, 0, 2), -1);
-        check.due("to 8", loom.turn(1, 0, 8), -1);
-        check.due("to -1", loom.turn(1, 0, -1), -1);
-        check.due("nothing came there", loom.size(2, 1), 0);
-        loom.lay(0, 2, 0_202);
-        check.due("a size of 4", loom.turn(0, 1, 0), 4);
-        check.due("N is 1", new SpanLoom(7, 1).turn(0, 0, 0), -1);
     }
 
     /** Turned there and back, a laying without the span of the post alone is like itself. */
