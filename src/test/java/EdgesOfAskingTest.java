@@ -160,6 +160,9 @@ public final class EdgesOfAskingTest {
         check.due("one number that isn't 0", loom.like(0, 1), false);
         loom.set(0, 0, 0, 3, 1);
         check.due("one number that isn't 0 in both", loom.like(0, 1), true);
+        loom.span(2, 0, 0, 0);
+        loom.span(3, 0, 1, 1);
+        check.due("as many spans, but other ones", loom.like(2, 3), false);
         SpanLoom single = new SpanLoom(2, 1);
         single.lay(0, 0, 4);
         single.lay(1, 0, 3);
@@ -243,8 +246,8 @@ public final class EdgesOfAskingTest {
     /** One arrow that points the other way is enough, wherever it is between a and b, and none beyond them counts. */
     private void rankAgainstAnArrow() {
         check.sentence("Promise 16", "or they don't.");
-        SpanLoom loom = new SpanLoom(3, 8);
         for (int arrow = 0; arrow < 7; arrow++) {
+            SpanLoom loom = new SpanLoom(3, 8);
             loom.span(0, 1 << arrow, 0, 7);
             loom.span(1, 127 ^ 1 << arrow, 0, 7);
             for (int a = 0; a < 8; a++) {

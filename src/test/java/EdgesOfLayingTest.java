@@ -89,8 +89,8 @@ public final class EdgesOfLayingTest {
 
     private void layWays() {
         check.sentence("Promise 2", "bit k of ways is 1: ARROW k is to the LEFT");
-        SpanLoom loom = new SpanLoom(2, 8);
         for (int ways = 0; ways < 128; ways++) {
+            SpanLoom loom = new SpanLoom(2, 8);
             check.due("lay with ways " + ways, loom.lay(0, ways, 0_21212121), true);
             check.due("its ways", loom.ways(0), ways);
             for (int arrow = 0; arrow < 7; arrow++) {
@@ -276,17 +276,19 @@ public final class EdgesOfLayingTest {
     private void getOfAllCells() {
         check.sentence("Promise 4", "It; NONE if there is none such.");
         SpanLoom loom = new SpanLoom(13, 8);
-        for (int l = 0; l < 8; l++) {
-            loom.lay(l, 42, 0_44444444);
-            for (int cell = 0; cell < 112; cell++) {
-                loom.set(l, cell / 16, cell / 4 % 4, cell % 4, cell * 5 + l);
-            }
+        loom.lay(7, 42, 0_44444444);
+        for (int cell = 0; cell < 112; cell++) {
+            loom.set(7, cell / 16, cell / 4 % 4, cell % 4, cell * 5);
+        }
+        for (int cell = 0; cell < 112; cell++) {
+            check.due("cell " + cell, loom.get(7, cell / 16, cell / 4 % 4, cell % 4), cell * 5 % 13);
         }
         for (int l = 0; l < 8; l++) {
-            for (int cell = 0; cell < 112; cell++) {
-                int want = (cell * 5 + l) % 13;
-                check.due("cell " + cell, loom.get(l, cell / 16, cell / 4 % 4, cell % 4), want);
-            }
+            loom.lay(l, 0, 0_11);
+            loom.set(l, 0, 0, 0, l + 1);
+        }
+        for (int l = 0; l < 8; l++) {
+            check.due("laying " + l, loom.get(l, 0, 0, 0), l + 1);
         }
     }
 

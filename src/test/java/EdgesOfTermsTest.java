@@ -151,7 +151,8 @@ public final class EdgesOfTermsTest {
     }
 
     private void spanAtTheRims() {
-        check.sentence("Terms 1", "has SIZE 1 at the POSTS a to b, 0 at others, and the number 1 on each ARROW between.");
+        check.sentence("Terms 1", "has SIZE 1 at the POSTS a to b, 0 at others, "
+                + "and the number 1 on each ARROW between.");
         SpanLoom loom = new SpanLoom(3, 4);
         for (int a = 0; a < 4; a++) {
             for (int b = a; b < 4; b++) {
@@ -276,7 +277,8 @@ public final class EdgesOfTermsTest {
     }
 
     private void leftOneFirst() {
-        check.sentence("Terms 2", "W are the numbers at the POSTS beside it: of the left one first, then of the right one.");
+        check.sentence("Terms 2", "W are the numbers at the POSTS beside it: "
+                + "of the left one first, then of the right one.");
         SpanLoom loom = new SpanLoom(5, 3);
         loom.span(0, 2, 0, 2);
         loom.turn(0, 1, 1);
@@ -414,7 +416,8 @@ public final class EdgesOfTermsTest {
     }
 
     private void farWithoutSign() {
-        check.sentence("Terms 3", "costs twice the greater of a and c, and b and d, apart (one less the other, without sign)");
+        check.sentence("Terms 3", "costs twice the greater of a and c, and b and d, apart "
+                + "(one less the other, without sign)");
         int[][] pairs = {{0, 7, 1, 7, 2}, {0, 7, 0, 6, 2}, {0, 7, 1, 6, 2}, {0, 7, 2, 6, 4}, {0, 7, 1, 5, 4},
             {1, 6, 0, 7, 2}, {0, 6, 1, 7, 2}, {1, 7, 0, 6, 2}, {0, 7, 3, 7, 6}, {0, 7, 0, 7, 0}};
         SpanLoom loom = new SpanLoom(2, 8);
@@ -424,6 +427,13 @@ public final class EdgesOfTermsTest {
             check.due("far of the one and the other", loom.far(0, 1), k[4]);
             check.due("far of the other and the one", loom.far(1, 0), k[4]);
         }
+        // 1 to 4 is dear at 2, and so is 0 to 2, which ends before it: taken with its sign, that would cost too little.
+        loom.span(0, 0, 1, 4);
+        loom.span(1, 0, 0, 2);
+        loom.span(2, 0, 2, 3);
+        loom.beside(1, 2, 1);
+        check.due("far of one and two", loom.far(0, 1), 3);
+        check.due("far of two and one", loom.far(1, 0), 3);
     }
 
     private void farCostAlone() {

@@ -10,31 +10,44 @@ final class Looms {
         return new int[] {-1, bound, bound + 1, -bound - 1, bound + 256, Integer.MIN_VALUE, Integer.MAX_VALUE};
     }
 
-    /** All that can be seen of all layings, and a rim around it where nothing is to be seen. */
+    /** All that can be seen of all layings, a line for each, in so few calls that a test can look twice. */
     static String seen(SpanLoom loom) {
         StringBuilder text = new StringBuilder();
-        text.append(loom.count(0)).append(' ').append(loom.count(1));
-        for (int l = -1; l <= LAYINGS; l++) {
-            text.append('\n').append(loom.ways(l)).append(':');
-            for (int post = -1; post <= loom.count(1); post++) {
-                text.append(' ').append(loom.size(l, post)).append('[');
-                for (int cell = 0; cell < 36; cell++) {
-                    text.append(loom.get(l, post, cell / 6 - 1, cell % 6 - 1)).append(' ');
-                }
-                text.append(']');
+        int posts = loom.count(1);
+        for (int l = 0; l < LAYINGS; l++) {
+            int ways = loom.ways(l);
+            text.append(ways).append(':');
+            int[] sizes = new int[posts];
+            for (int post = 0; post < posts; post++) {
+                sizes[post] = loom.size(l, post);
+                text.append(' ').append(sizes[post]);
             }
+            for (int arrow = 0; arrow < posts - 1; arrow++) {
+                boolean left = (ways >> arrow & 1) == 1;
+                int rows = sizes[left ? arrow : arrow + 1];
+                int columns = sizes[left ? arrow + 1 : arrow];
+                text.append(" |");
+                for (int cell = 0; cell < rows * columns; cell++) {
+                    text.append(' ').append(loom.get(l, arrow, cell / columns, cell % columns));
+                }
+            }
+            text.append('\n');
         }
         return text.toString();
     }
 
-    /** Three posts, rests by 5, and layings with all ways, all sizes, and numbers that aren't 0. */
+    /** Three posts, rests by 5, and layings with all ways, all sizes, and numbers that aren't 0: 100 calls. */
     static SpanLoom full() {
         SpanLoom loom = new SpanLoom(5, 3);
-        int[] sizes = {0_222, 0_412, 0_321, 0_143, 0_444, 0_101, 0_212, 0_234};
+        int[][] sizes = {{2, 2, 2}, {2, 1, 4}, {1, 2, 3}, {3, 4, 1}, {4, 4, 4}, {1, 0, 1}, {2, 1, 2}, {4, 3, 2}};
         for (int l = 0; l < LAYINGS; l++) {
-            loom.lay(l, l % 4, sizes[l]);
-            for (int cell = 0; cell < 32; cell++) {
-                loom.set(l, cell / 16, cell / 4 % 4, cell % 4, 1 + (cell * 7 + l) % 4);
+            loom.lay(l, l % 4, sizes[l][0] | sizes[l][1] << 3 | sizes[l][2] << 6);
+            for (int arrow = 0; arrow < 2; arrow++) {
+                boolean left = (l >> arrow & 1) == 1;
+                int columns = sizes[l][left ? arrow + 1 : arrow];
+                for (int cell = 0; cell < sizes[l][arrow] * sizes[l][arrow + 1]; cell++) {
+                    loom.set(l, arrow, cell / columns, cell % columns, 1 + (cell * 7 + l) % 4);
+                }
             }
         }
         return loom;
