@@ -828,7 +828,7 @@ public final class SpanLoom {
 
         private void change(int last) {
             int other = last;
-            for (int k = 0; k < MOST_SPANS && other != NONE; k++) {
+            for (int k = 0; k < MOST_SPANS && other != NONE && reachedFrom[other] != NONE; k++) {
                 int one = reachedFrom[other];
                 int before = pairOfOne[one];
                 pairOfOne[one] = other;
